@@ -192,12 +192,12 @@ public final class StateExplore {
     }
 
     private static int stateIn(long form, int node) {
-        return (int) (form >>> CODES_BITS + STATE_BITS * (MOST_NODES - 1 - node)) & STATE_MASK;
+        return (int) (form >>> (CODES_BITS + STATE_BITS * (MOST_NODES - 1 - node))) & STATE_MASK;
     }
 
     /** The i-th code of a form; NONE where there is none. */
     private static int codeIn(long form, int i) {
-        return ((int) (form >>> CODE_BITS * (MOST_CODES - 1 - i)) & CODE_MASK) - 1;
+        return ((int) (form >>> (CODE_BITS * (MOST_CODES - 1 - i))) & CODE_MASK) - 1;
     }
 
     private static int codesIn(long form) {
@@ -262,11 +262,11 @@ public final class StateExplore {
         }
 
         boolean isBadPair(int a, int b) {
-            return (badPairs >>> MOST_STATES * a + b & 1) != 0;
+            return (badPairs & 1L << (MOST_STATES * a + b)) != 0;
         }
 
         void addBadPair(int a, int b) {
-            badPairs |= 1L << MOST_STATES * a + b | 1L << MOST_STATES * b + a;
+            badPairs |= 1L << (MOST_STATES * a + b) | 1L << (MOST_STATES * b + a);
         }
 
         boolean isBadWhole(Draft draft) {
@@ -353,7 +353,7 @@ public final class StateExplore {
         private long statesBy(int numbering) {
             int packed = 0;
             for (int i = 0; i < nodes; i++) {
-                int number = numbering >> 4 * i & 3;
+                int number = (numbering >> 4 * i) & 3;
                 packed |= states[i] << STATE_BITS * (MOST_NODES - 1 - number);
             }
             return packed;
@@ -362,8 +362,8 @@ public final class StateExplore {
         private long codesBy(int numbering) {
             for (int i = 0; i < size; i++) {
                 int code = codes[i];
-                int from = numbering >> 4 * (code >> 2 & 3) & 3;
-                int to = numbering >> 4 * (code & 3) & 3;
+                int from = (numbering >> 4 * (code >> 2 & 3)) & 3;
+                int to = (numbering >> 4 * (code & 3)) & 3;
                 int renumbered = (code & ~15) + 4 * from + to;
                 int at = i;
                 for (; at > 0 && sorted[at - 1] > renumbered; at--) {
@@ -430,9 +430,9 @@ public final class StateExplore {
         /** The slot of a form, or the empty one where it belongs. */
         int slotOf(long form) {
             int last = slots.length - 1;
-            int slot = (int) (form * SPREAD >>> 40) & last;
+            int slot = (int) ((form * SPREAD) >>> 40) & last;
             for (int i = 0; i < last && slots[slot] != 0 && forms[slots[slot] - 1] != form; i++) {
-                slot = slot + 1 & last;
+                slot = (slot + 1) & last;
             }
             return slot;
         }

@@ -19,6 +19,7 @@ public final class PromiseTest {
         run();
         runWithoutRoom();
         runStepsInTheirOrder();
+        runEndsBetweenCodes();
         runSevenOnTheirWay();
         runLargestRoom();
         go();
@@ -311,6 +312,22 @@ public final class PromiseTest {
         numbers("7: each twice", y, 1, row(0, 0, 1), 8, 8, 9, 9);
         Check.same("7: twice the same code is one step", y.whole(1, 4), 2);
         numbers("7: one of two alike is received", y, 2, row(0, 1, 2), 4, 4, 6, 25);
+    }
+
+    /** The fifth whole is the last one; then the first of two codes for a node leads to one too many. */
+    private static void runEndsBetweenCodes() {
+        StateExplore x = new StateExplore(3, 5);
+        x.state();
+        x.state();
+        x.message();
+        x.rule(0, NONE, 1);
+        x.sends(0, 0, 1);
+        x.rule(0, 0, 2);
+        Check.same("7: no room for what comes of the first code", x.run(), -1);
+        numbers("7: two codes for node 0", x, 2, row(0, 1, 1), 4, 6, 8, 9);
+        numbers("7: received the least one", x, 3, row(0, 1, 2), 4);
+        numbers("7: all asked", x, 4, row(1, 1, 1), 1, 2, 4, 6, 8, 9);
+        counts("7: the second code is not tried", x, 5, 2, 3, 9, 4, 0, 14);
     }
 
     private static void runSevenOnTheirWay() {

@@ -33,6 +33,8 @@ public final class ReferenceTest {
         for (call = 0; call < CALLS; call++) {
             if (call < telling || random.nextInt(60) == 0) {
                 tell();
+            } else if (random.nextInt(60) == 0) {
+                tellBad();
             } else if (random.nextInt(8) == 0) {
                 explore();
             } else {
@@ -71,8 +73,14 @@ public final class ReferenceTest {
             int whom = number(2);
             compare("sends", () -> program.sends(rule, m, whom), () -> reference.sends(rule, m, whom));
         } else if (random.nextInt(3) == 0) {
-            compare("bad", () -> program.bad(a, b) ? 1 : 0, () -> reference.bad(a, b));
+            tellBad();
         }
+    }
+
+    private void tellBad() {
+        int a = number(reference.count(1));
+        int b = number(reference.count(1));
+        compare("bad", () -> program.bad(a, b) ? 1 : 0, () -> reference.bad(a, b));
     }
 
     private void explore() {
