@@ -33,57 +33,6 @@ public final class PromiseTest {
         Check.end("PromiseTest");
     }
 
-    /** States 0 to n - 1 and a rule by itself from each to the next: 0 to 1, 1 to 2, and so on. */
-    private static StateExplore chain(int nodes, int room, int states) {
-        StateExplore x = new StateExplore(nodes, room);
-        for (int i = 1; i < states; i++) {
-            x.state();
-        }
-        for (int i = 1; i < states; i++) {
-            x.rule(i - 1, NONE, i);
-        }
-        return x;
-    }
-
-    /** A node in 0 goes to 1 by itself and asks all others; asked in 0 it answers; the answer leads to 2. */
-    private static StateExplore askers(int nodes, int room) {
-        StateExplore x = chain(nodes, room, 2);
-        x.state();
-        x.message();
-        x.message();
-        x.sends(0, 0, 1);
-        x.rule(0, 0, 0);
-        x.sends(1, 1, 0);
-        x.rule(1, 1, 2);
-        return x;
-    }
-
-    private static void counts(String name, StateExplore x, int... due) {
-        for (int i = 0; i < due.length; i++) {
-            Check.same(name + ": count(" + (4 + i) + ")", x.count(4 + i), due[i]);
-        }
-    }
-
-    private static void numbers(String name, StateExplore x, int k, int[] states, int... codes) {
-        for (int i = 0; i < states.length; i++) {
-            Check.same(name + ": node(" + k + ", " + i + ")", x.node(k, i), states[i]);
-        }
-        Check.same(name + ": whole(" + k + ", 0)", x.whole(k, 0), codes.length);
-        for (int i = 0; i < codes.length; i++) {
-            Check.same(name + ": code(" + k + ", " + i + ")", x.code(k, i), codes[i]);
-        }
-    }
-
-    private static void wholes(String name, StateExplore x, int k, int... due) {
-        for (int i = 0; i < due.length; i++) {
-            Check.same(name + ": whole(" + k + ", " + (1 + i) + ")", x.whole(k, 1 + i), due[i]);
-        }
-    }
-
-    private static int[] row(int... states) {
-        return states;
-    }
-
     private static void newObject() {
         int[] nodes = {1, 2, 3, 4, 5, 8, 9, 0, -1, -2, -3, -4, LOWEST, LOWEST + 1, HIGHEST};
         int[] due = {1, 2, 3, 4, 1, 4, 1, 4, 3, 2, 1, 4, 4, 1, 3};
@@ -93,7 +42,7 @@ public final class PromiseTest {
         int[] rooms = {1, 2, 7, 8193, 8194, -8191, -8190, -8189, LOWEST + 1, LOWEST + 2};
         int[] taken = {1, 2, 7, 1, 2, 1, 2, 3, 1, 2};
         for (int i = 0; i < rooms.length; i++) {
-            StateExplore x = chain(1, rooms[i], 8);
+            StateExplore x = Models.chain(1, rooms[i], 8);
             Check.same("1: run in room " + rooms[i], x.run(), -1);
             Check.same("1: wholes in room " + rooms[i], x.count(4), taken[i]);
         }
@@ -101,7 +50,7 @@ public final class PromiseTest {
         Check.same("1: states", x.count(1), 1);
         Check.same("1: kinds", x.count(2), 0);
         Check.same("1: rules", x.count(3), 0);
-        counts("1: new", x, 0, 0, NONE, 0, 0, 0, 0);
+        Check.counts("1: new", x, 0, 0, NONE, 0, 0, 0, 0);
         Check.same("1: way", x.way(), NONE);
         Check.throwing("1: whole(0, 0)", OUTSIDE, () -> x.whole(0, 0));
     }
@@ -118,14 +67,14 @@ public final class PromiseTest {
     }
 
     private static void whatAddsForgets() {
-        StateExplore x = askers(2, 100);
+        StateExplore x = Models.askers(2, 100);
         x.bad(0, 1);
         Runnable[] adding = {x::state, x::message, () -> x.rule(0, NONE, 0), () -> x.sends(0, 0, 1), () -> x.bad(1, 1)};
         for (int i = 0; i < adding.length; i++) {
             Check.same("2: bad before adding " + i, x.run(), -2);
             Check.same("2: way before adding " + i, x.way(), 1);
             adding[i].run();
-            counts("2: after adding " + i, x, 0, 0, NONE, 0, 0, 0, 0);
+            Check.counts("2: after adding " + i, x, 0, 0, NONE, 0, 0, 0, 0);
             Check.same("2: way after adding " + i, x.way(), NONE);
             Check.throwing("2: wayAt(0) after adding " + i, OUTSIDE, () -> x.wayAt(0));
             Check.throwing("2: node(0, 0) after adding " + i, OUTSIDE, () -> x.node(0, 0));
@@ -200,14 +149,14 @@ public final class PromiseTest {
         x.sends(1, 1, 0);
         x.sends(1, 2, 1);
         Check.same("5: first asked", x.go(1), 2);
-        numbers("5: one each to all others", x, 1, row(0, 0, 0, 1), 12, 13, 14);
+        Check.numbers("5: one each to all others", x, 1, Check.row(0, 0, 0, 1), 12, 13, 14);
         x.go(1);
-        numbers("5: a second one asks", x, 2, row(0, 0, 1, 1), 8, 9, 11, 12, 13, 14);
-        numbers("5: to the sender and to all others", x, 3, row(0, 0, 1, 2), 8, 9, 30, 44, 45, 46);
+        Check.numbers("5: a second one asks", x, 2, Check.row(0, 0, 1, 1), 8, 9, 11, 12, 13, 14);
+        Check.numbers("5: to the sender and to all others", x, 3, Check.row(0, 0, 1, 2), 8, 9, 30, 44, 45, 46);
     }
 
     private static void bad() {
-        StateExplore x = chain(2, 10, 3);
+        StateExplore x = Models.chain(2, 10, 3);
         Check.same("6: new", x.bad(1, 2), true);
         Check.same("6: again", x.bad(1, 2), false);
         Check.same("6: the other way round", x.bad(2, 1), false);
@@ -217,7 +166,7 @@ public final class PromiseTest {
         for (int[] w : wrong) {
             Check.throwing("6: bad " + java.util.Arrays.toString(w), ILLEGAL, () -> x.bad(w[0], w[1]) ? 1 : 0);
         }
-        StateExplore all = chain(1, 10, 8);
+        StateExplore all = Models.chain(1, 10, 8);
         for (int a = 0; a < 8; a++) {
             for (int b = a; b < 8; b++) {
                 Check.same("6: pair " + a + " " + b, all.bad(b, a), true);
@@ -227,75 +176,75 @@ public final class PromiseTest {
     }
 
     private static void badPairsInWholes() {
-        StateExplore x = chain(2, 100, 4);
+        StateExplore x = Models.chain(2, 100, 4);
         Check.same("6: without bad pairs", x.run(), 10);
         x.bad(3, 0);
         Check.same("6: 0 and 3", x.run(), -2);
-        numbers("6: 0 and 3", x, x.wayAt(x.way()), row(0, 3));
-        StateExplore same = chain(3, 100, 3);
+        Check.numbers("6: 0 and 3", x, x.wayAt(x.way()), Check.row(0, 3));
+        StateExplore same = Models.chain(3, 100, 3);
         same.bad(2, 2);
         Check.same("6: twice 2", same.run(), -2);
-        numbers("6: twice 2", same, same.wayAt(same.way()), row(0, 2, 2));
-        StateExplore once = chain(2, 100, 2);
+        Check.numbers("6: twice 2", same, same.wayAt(same.way()), Check.row(0, 2, 2));
+        StateExplore once = Models.chain(2, 100, 2);
         once.state();
         once.rule(0, NONE, 2);
         once.bad(0, 2);
         Check.same("6: the second rule's", once.run(), -2);
-        numbers("6: the second rule's", once, 2, row(0, 2));
+        Check.numbers("6: the second rule's", once, 2, Check.row(0, 2));
     }
 
     private static void run() {
-        StateExplore x = chain(3, 100, 2);
+        StateExplore x = Models.chain(3, 100, 2);
         Check.same("7: all", x.run(), 4);
         for (int again = 0; again < 2; again++) {
             Check.same("7: all again", x.run(), 4);
-            counts("7: all", x, 4, 4, 3, 6, 3, 1, 8);
+            Check.counts("7: all", x, 4, 4, 3, 6, 3, 1, 8);
         }
         x.bad(1, 1);
         for (int again = 0; again < 2; again++) {
             Check.same("7: bad", x.run(), -2);
             // From 000 three steps to 001; from 001 the first one, to 011, is bad.
-            counts("7: bad", x, 3, 1, 2, 4, 2, 0, 7);
+            Check.counts("7: bad", x, 3, 1, 2, 4, 2, 0, 7);
             Check.same("7: the one it came from is not gone through", x.whole(1, 4), NONE);
             Check.same("7: nor is the bad one", x.whole(2, 4), NONE);
         }
-        StateExplore first = chain(2, 100, 2);
+        StateExplore first = Models.chain(2, 100, 2);
         first.bad(0, 0);
         Check.same("7: whole 0 is bad", first.run(), -2);
-        counts("7: whole 0 is bad", first, 1, 0, 0, 0, 0, 0, 1);
+        Check.counts("7: whole 0 is bad", first, 1, 0, 0, 0, 0, 0, 1);
         Check.same("7: whole 0 is bad, not gone through", first.whole(0, 4), NONE);
-        StateExplore on = chain(3, 100, 3);
+        StateExplore on = Models.chain(3, 100, 3);
         on.go(2);
         Check.same("7: on from go", on.run(), 10);
         Check.same("7: nothing to go by", new StateExplore(4, 1).run(), 1);
     }
 
     private static void runWithoutRoom() {
-        StateExplore x = chain(3, 2, 2);
+        StateExplore x = Models.chain(3, 2, 2);
         for (int again = 0; again < 2; again++) {
             Check.same("7: no room", x.run(), -1);
-            counts("7: no room", x, 2, 1, 1, 4, 2, 0, 4);
+            Check.counts("7: no room", x, 2, 1, 1, 4, 2, 0, 4);
             Check.same("7: no room, not gone through", x.whole(1, 4), NONE);
         }
         x.bad(1, 1);
         Check.same("7: a bad one for which there is no room is not found", x.run(), -1);
         Check.same("7: and there is no way to it", x.way(), NONE);
-        StateExplore whole = chain(3, 4, 2);
+        StateExplore whole = Models.chain(3, 4, 2);
         Check.same("7: just room enough", whole.run(), 4);
-        StateExplore last = chain(3, 3, 2);
+        StateExplore last = Models.chain(3, 3, 2);
         last.bad(1, 1);
         Check.same("7: the bad one in the last room", last.run(), -2);
     }
 
     private static void runStepsInTheirOrder() {
-        StateExplore x = chain(2, 100, 3);
+        StateExplore x = Models.chain(2, 100, 3);
         x.rule(0, NONE, 2);
         x.run();
-        numbers("7: by rule 0", x, 1, row(0, 1));
-        numbers("7: by rule 2", x, 2, row(0, 2));
-        numbers("7: node 0 first", x, 3, row(1, 1));
-        numbers("7: node 0, rule 2", x, 4, row(1, 2));
-        numbers("7: from whole 2", x, 5, row(2, 2));
+        Check.numbers("7: by rule 0", x, 1, Check.row(0, 1));
+        Check.numbers("7: by rule 2", x, 2, Check.row(0, 2));
+        Check.numbers("7: node 0 first", x, 3, Check.row(1, 1));
+        Check.numbers("7: node 0, rule 2", x, 4, Check.row(1, 2));
+        Check.numbers("7: from whole 2", x, 5, Check.row(2, 2));
         Check.same("7: six in all", x.count(4), 6);
         // Codes: two alike are one step, and the least comes first.
         StateExplore y = new StateExplore(3, 100);
@@ -309,9 +258,9 @@ public final class PromiseTest {
         y.rule(0, 0, 2);
         y.sends(1, 1, 0);
         y.go(2);
-        numbers("7: each twice", y, 1, row(0, 0, 1), 8, 8, 9, 9);
+        Check.numbers("7: each twice", y, 1, Check.row(0, 0, 1), 8, 8, 9, 9);
         Check.same("7: twice the same code is one step", y.whole(1, 4), 2);
-        numbers("7: one of two alike is received", y, 2, row(0, 1, 2), 4, 4, 6, 25);
+        Check.numbers("7: one of two alike is received", y, 2, Check.row(0, 1, 2), 4, 4, 6, 25);
     }
 
     /** The fifth whole is the last one; then the first of two codes for a node leads to one too many. */
@@ -324,10 +273,10 @@ public final class PromiseTest {
         x.sends(0, 0, 1);
         x.rule(0, 0, 2);
         Check.same("7: no room for what comes of the first code", x.run(), -1);
-        numbers("7: two codes for node 0", x, 2, row(0, 1, 1), 4, 6, 8, 9);
-        numbers("7: received the least one", x, 3, row(0, 1, 2), 4);
-        numbers("7: all asked", x, 4, row(1, 1, 1), 1, 2, 4, 6, 8, 9);
-        counts("7: the second code is not tried", x, 5, 2, 3, 9, 4, 0, 14);
+        Check.numbers("7: two codes for node 0", x, 2, Check.row(0, 1, 1), 4, 6, 8, 9);
+        Check.numbers("7: received the least one", x, 3, Check.row(0, 1, 2), 4);
+        Check.numbers("7: all asked", x, 4, Check.row(1, 1, 1), 1, 2, 4, 6, 8, 9);
+        Check.counts("7: the second code is not tried", x, 5, 2, 3, 9, 4, 0, 14);
     }
 
     private static void runSevenOnTheirWay() {
@@ -349,7 +298,7 @@ public final class PromiseTest {
         y.sends(0, 0, 1);
         Check.same("7: threes", y.run(), 3);
         Check.same("7: six, and nine can not be", y.whole(2, 0), 6);
-        counts("7: threes", y, 3, 3, 2, 7, 5, 1, 11);
+        Check.counts("7: threes", y, 3, 3, 2, 7, 5, 1, 11);
     }
 
     private static void runLargestRoom() {
@@ -366,7 +315,7 @@ public final class PromiseTest {
     }
 
     private static void go() {
-        StateExplore x = chain(3, 100, 3);
+        StateExplore x = Models.chain(3, 100, 3);
         int[] wrong = {0, -1, 1001, LOWEST, HIGHEST};
         for (int n : wrong) {
             Check.throwing("8: go(" + n + ")", ILLEGAL, () -> x.go(n));
@@ -380,11 +329,11 @@ public final class PromiseTest {
         Check.same("8: all gone through", x.count(5), 10);
         Check.same("8: no more", x.go(1), 10);
         Check.same("8: run has the same", x.run(), 10);
-        StateExplore full = chain(3, 3, 3);
+        StateExplore full = Models.chain(3, 3, 3);
         Check.same("8: no room", full.go(5), 3);
         Check.same("8: no room again", full.go(5), 3);
         Check.same("8: no room in run", full.run(), -1);
-        StateExplore evil = chain(3, 100, 3);
+        StateExplore evil = Models.chain(3, 100, 3);
         evil.bad(2, 1);
         // 000, 001, 011, 002, then from 011 first 111 and then 012.
         Check.same("8: up to the bad one", evil.go(1000), 6);
@@ -396,28 +345,28 @@ public final class PromiseTest {
     }
 
     private static void node() {
-        StateExplore x = chain(3, 100, 3);
+        StateExplore x = Models.chain(3, 100, 3);
         Check.throwing("9: before exploring", OUTSIDE, () -> x.node(0, 0));
         x.run();
-        numbers("9: whole 0", x, 0, row(0, 0, 0));
-        numbers("9: whole 1", x, 1, row(0, 0, 1));
-        numbers("9: whole 9", x, 9, row(2, 2, 2));
+        Check.numbers("9: whole 0", x, 0, Check.row(0, 0, 0));
+        Check.numbers("9: whole 1", x, 1, Check.row(0, 0, 1));
+        Check.numbers("9: whole 9", x, 9, Check.row(2, 2, 2));
         int[][] wrong = {{10, 0}, {-1, 0}, {0, 3}, {0, -1}, {HIGHEST, 0}, {LOWEST, 0}, {0, HIGHEST}, {0, LOWEST}};
         for (int[] w : wrong) {
             Check.throwing("9: node " + java.util.Arrays.toString(w), OUTSIDE, () -> x.node(w[0], w[1]));
         }
-        StateExplore high = chain(4, 0, 8);
+        StateExplore high = Models.chain(4, 0, 8);
         Check.same("9: 8 states in 4 nodes", high.run(), 330);
-        numbers("9: all sevens", high, 329, row(7, 7, 7, 7));
+        Check.numbers("9: all sevens", high, 329, Check.row(7, 7, 7, 7));
     }
 
     private static void code() {
-        StateExplore x = askers(2, 100);
+        StateExplore x = Models.askers(2, 100);
         Check.throwing("10: before exploring", OUTSIDE, () -> x.code(0, 0));
         x.run();
-        numbers("10: asked", x, 1, row(0, 1), 4);
-        numbers("10: both asked", x, 2, row(1, 1), 1, 4);
-        numbers("10: answered", x, 3, row(0, 1), 17);
+        Check.numbers("10: asked", x, 1, Check.row(0, 1), 4);
+        Check.numbers("10: both asked", x, 2, Check.row(1, 1), 1, 4);
+        Check.numbers("10: answered", x, 3, Check.row(0, 1), 17);
         int[][] wrong = {{0, 0}, {1, 1}, {2, 2}, {1, -1}, {-1, 0}, {HIGHEST, 0}, {1, HIGHEST}, {1, LOWEST}, {1, 7}};
         for (int[] w : wrong) {
             Check.throwing("10: code " + java.util.Arrays.toString(w), OUTSIDE, () -> x.code(w[0], w[1]));
@@ -431,19 +380,19 @@ public final class PromiseTest {
         high.sends(0, 5, 1);
         high.sends(0, 0, 1);
         high.go(1);
-        numbers("10: the least first", high, 1, row(0, 0, 0, 1), 12, 13, 14, 92, 93, 94);
+        Check.numbers("10: the least first", high, 1, Check.row(0, 0, 0, 1), 12, 13, 14, 92, 93, 94);
     }
 
     private static void whole() {
-        StateExplore x = askers(2, 100);
+        StateExplore x = Models.askers(2, 100);
         Check.throwing("11: before exploring", OUTSIDE, () -> x.whole(0, 1));
         x.go(2);
-        wholes("11: the first", x, 0, 0, NONE, NONE, 2, 2);
-        wholes("11: asked", x, 1, 1, 0, 0, 2, 1);
-        wholes("11: both asked", x, 2, 2, 1, 0, NONE, 2);
-        wholes("11: answered", x, 3, 2, 1, 1, NONE, 1);
+        Check.facts("11: the first", x, 0, 0, NONE, NONE, 2, 2);
+        Check.facts("11: asked", x, 1, 1, 0, 0, 2, 1);
+        Check.facts("11: both asked", x, 2, 2, 1, 0, NONE, 2);
+        Check.facts("11: answered", x, 3, 2, 1, 1, NONE, 1);
         x.run();
-        wholes("11: both asked, none can answer", x, 2, 2, 1, 0, 0, 2);
+        Check.facts("11: both asked, none can answer", x, 2, 2, 1, 0, 0, 2);
         int[][] wrong = {{0, 6}, {0, -1}, {-1, 0}, {99, 0}, {HIGHEST, 0}, {LOWEST, 5}, {0, HIGHEST}, {0, LOWEST}};
         for (int[] w : wrong) {
             Check.throwing("11: whole " + java.util.Arrays.toString(w), OUTSIDE, () -> x.whole(w[0], w[1]));
@@ -457,7 +406,7 @@ public final class PromiseTest {
     }
 
     private static void way() {
-        StateExplore x = chain(2, 100, 4);
+        StateExplore x = Models.chain(2, 100, 4);
         Check.same("12: new", x.way(), NONE);
         x.run();
         Check.same("12: all gone through", x.way(), NONE);
@@ -473,19 +422,19 @@ public final class PromiseTest {
         x.bad(0, 0);
         x.run();
         Check.same("12: whole 0", x.way(), 0);
-        StateExplore full = chain(2, 3, 4);
+        StateExplore full = Models.chain(2, 3, 4);
         full.run();
         Check.same("12: no room", full.way(), NONE);
     }
 
     private static void wayAt() {
-        StateExplore x = chain(2, 100, 3);
+        StateExplore x = Models.chain(2, 100, 3);
         Check.throwing("13: new", OUTSIDE, () -> x.wayAt(0));
         x.run();
         Check.throwing("13: none bad", OUTSIDE, () -> x.wayAt(0));
         x.bad(2, 2);
         x.run();
-        // 00, 01, 02, 11, 12, 22: 12 comes of 02, which is gone through before 11.
+        // 00, 01, 11, 02, 12, 22: 12 comes of 11, which is gone through before 02.
         int[] due = {0, 1, 2, 4, 5};
         for (int i = 0; i < due.length; i++) {
             Check.same("13: wayAt(" + i + ")", x.wayAt(i), due[i]);
@@ -501,29 +450,29 @@ public final class PromiseTest {
     }
 
     private static void count() {
-        StateExplore x = askers(2, 100);
+        StateExplore x = Models.askers(2, 100);
         Check.same("14: nodes", x.count(0), 2);
         Check.same("14: states", x.count(1), 3);
         Check.same("14: kinds", x.count(2), 2);
         Check.same("14: rules", x.count(3), 3);
-        counts("14: before exploring", x, 0, 0, NONE, 0, 0, 0, 0);
+        Check.counts("14: before exploring", x, 0, 0, NONE, 0, 0, 0, 0);
         int[] wrong = {-1, 11, 12, LOWEST, HIGHEST};
         for (int what : wrong) {
             Check.same("14: count(" + what + ")", x.count(what), NONE);
         }
         x.go(1);
-        counts("14: whole 0 gone through", x, 2, 1, 1, 2, 1, 0, 3);
+        Check.counts("14: whole 0 gone through", x, 2, 1, 1, 2, 1, 0, 3);
         x.go(1);
         // From 01 with 4: node 0 asks (11 with 1 and 4), or answers (01 with 17).
-        counts("14: whole 1 gone through", x, 4, 2, 2, 4, 1, 0, 6);
+        Check.counts("14: whole 1 gone through", x, 4, 2, 2, 4, 1, 0, 6);
         x.go(1);
-        counts("14: none can answer", x, 4, 3, 2, 4, 1, 1, 6);
+        Check.counts("14: none can answer", x, 4, 3, 2, 4, 1, 1, 6);
     }
 
     private static void countSums() {
         int[] powers = {8, 64, 512, 4096};
         for (int nodes = 1; nodes <= 4; nodes++) {
-            StateExplore x = chain(nodes, 0, 8);
+            StateExplore x = Models.chain(nodes, 0, 8);
             x.run();
             Check.same("14: sums of " + nodes, x.count(10), powers[nodes - 1]);
         }

@@ -21,11 +21,53 @@ public final class ReferenceTest {
         name = "seed " + seed;
     }
 
+    private ReferenceTest(int nodes, int room) {
+        random = new Random(nodes);
+        program = new StateExplore(nodes, room);
+        reference = new Reference(nodes, room);
+        name = nodes + " nodes, room " + room;
+    }
+
     public static void main(String[] args) {
         for (int seed = 0; seed < RUNS; seed++) {
             new ReferenceTest(seed).callAll();
         }
+        for (int nodes = 2; nodes <= 4; nodes++) {
+            new ReferenceTest(nodes, 0).fillLargestRoom();
+        }
         Check.end("ReferenceTest");
+    }
+
+    /** More wholes than 8192: nodes go round in eight states, send in six of them and answer in one. */
+    private void fillLargestRoom() {
+        for (int i = 1; i < 8; i++) {
+            compare("state", program::state, reference::state);
+        }
+        for (int i = 0; i < 8; i++) {
+            addRule(i, -1, (i + 1) % 8);
+        }
+        for (int kind = 0; kind < 6; kind++) {
+            compare("message", program::message, reference::message);
+            addRule(kind, -1, kind);
+            addSend(8 + kind, kind, 1);
+        }
+        for (int kind = 0; kind < 6; kind++) {
+            addRule(7, kind, 0);
+            addSend(14 + kind, 5 - kind, 0);
+        }
+        Check.same(name + " run", program.run(), -1);
+        Check.same(name + " run of the reference", reference.run(), -1);
+        for (call = 100; call < CALLS; call++) {
+            ask();
+        }
+    }
+
+    private void addRule(int state, int event, int to) {
+        compare("rule", () -> program.rule(state, event, to), () -> reference.rule(state, event, to));
+    }
+
+    private void addSend(int rule, int kind, int whom) {
+        compare("sends", () -> program.sends(rule, kind, whom), () -> reference.sends(rule, kind, whom));
     }
 
     private void callAll() {
