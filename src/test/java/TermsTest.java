@@ -186,6 +186,11 @@ public final class TermsTest {
             x.go(1);
             Check.numbers(times + " sent", x, 1, Check.row(0, 1), codes);
         }
+        StateExplore received = Models.with(Models.chain(2, 10, 2), 3, 1);
+        received.sends(0, 0, 1);
+        received.rule(0, 0, 2);
+        received.go(2);
+        Check.numbers("received, none sent", received, 3, Check.row(1, 2));
     }
 
     private static void toTheSender() {
@@ -309,6 +314,7 @@ public final class TermsTest {
     }
 
     private static void wholeZeroComes() {
+        Check.same("not with a new object", new StateExplore(2, 10).count(4), 0);
         StateExplore x = Models.chain(2, 10, 2);
         Check.same("before", x.count(4), 0);
         Check.throwing("node(0, 0) before", OUTSIDE, () -> x.node(0, 0));
@@ -437,7 +443,17 @@ public final class TermsTest {
         }
         StateExplore alone = Models.chain(1, 10, 2);
         alone.bad(0, 1);
+        alone.bad(1, 1);
         Check.same("a single node is no two", alone.run(), 2);
+        // The last node goes to 1 and asks; then node 0 goes to 2, and those between them are in 0.
+        for (int n = 3; n <= 4; n++) {
+            StateExplore apart = Models.with(Models.chain(n, 10, 2), 3, 1);
+            apart.sends(0, 0, 1);
+            apart.rule(0, 0, 2);
+            apart.bad(1, 2);
+            Check.same("the first and the last of " + n, apart.run(), -2);
+            Check.counts("the first and the last of " + n, apart, 4, 1, 2, n + 2);
+        }
         StateExplore twice = Models.chain(2, 10, 2);
         twice.rule(0, NONE, 0);
         twice.bad(0, 1);
