@@ -41,7 +41,20 @@ public final class FaceTest {
         Check.same("final", Modifier.isFinal(StateExplore.class.getModifiers()), true);
         Check.same("public", Modifier.isPublic(StateExplore.class.getModifiers()), true);
         Check.same("NONE", StateExplore.NONE, -1);
+        Check.same("the class above", StateExplore.class.getSuperclass().getName(), "java.lang.Object");
+        Check.same("interfaces", StateExplore.class.getInterfaces().length, 0);
+        checkClassesInside();
         Check.end("FaceTest");
+    }
+
+    /** Classes inside are no part of the face: none can be seen from outside, none needs an outer object. */
+    private static void checkClassesInside() {
+        for (Class<?> inside : StateExplore.class.getDeclaredClasses()) {
+            int modifiers = inside.getModifiers();
+            boolean seen = Modifier.isPublic(modifiers) || Modifier.isProtected(modifiers);
+            Check.same(inside.getName() + " is seen", seen, false);
+            Check.same(inside.getName() + " is static", Modifier.isStatic(modifiers), true);
+        }
     }
 
     private static void addSeen(TreeSet<String> seen, Member member, String text) {
